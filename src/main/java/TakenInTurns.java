@@ -121,7 +121,6 @@ public final class TakenInTurns {
         if (n != before) {
             g.rounds = n;
             g.forgetAll();
-            parting.forget();
         }
         return before;
     }
@@ -935,7 +934,6 @@ public final class TakenInTurns {
             people = 0;
             rounds = 1;
             for (int who = 0; who < MOST_PEOPLE; who++) {
-                unlist(who);
                 Arrays.fill(parts[who], 0);
             }
             forgetAll();

@@ -125,6 +125,9 @@ public final class ModelTest {
         List<List<int[]>> led = new ArrayList<>();
     }
 
+    @SuppressWarnings("unchecked")
+    static final List<List<Integer>>[] LINES = new List[9];
+
     static final class Model {
         final StringBuilder tape = new StringBuilder();
         final List<Given> givings = new ArrayList<>();
@@ -231,9 +234,11 @@ public final class ModelTest {
             return n;
         }
         List<List<Integer>> lines(int n) {
-            List<List<Integer>> all = new ArrayList<>();
-            lines(n, new ArrayList<>(), all);
-            return all;
+            if (LINES[n] == null) {
+                LINES[n] = new ArrayList<>();
+                lines(n, new ArrayList<>(), LINES[n]);
+            }
+            return LINES[n];
         }
         void lines(int n, List<Integer> begun, List<List<Integer>> all) {
             if (begun.size() == n) { all.add(new ArrayList<>(begun)); return; }
@@ -821,16 +826,16 @@ public final class ModelTest {
         }
 
         void go() {
-            int most = seed % 10 == 0 ? 6 : 4;
+            int most = seed % 70 == 0 ? 8 : seed % 10 == 0 ? 6 : 4;
             for (int i = 0; i < 7; i++) {
                 int kind = r(7);
                 due("way " + kind, x.way(kind), m.way(kind));
             }
-            tell(text(1 + r(most), 1 + r(most)));
+            tell(text(1 + r(most), 1 + r(Math.min(7, most))));
             due("giving", x.giving(), m.giving());
             while (made < 500 && wrong < 20) {
                 if (r(25) == 0) {
-                    tell(r(3) == 0 ? spoilt(text(1 + r(most), 1 + r(most))) : text(1 + r(most), 1 + r(most)));
+                    tell(r(3) == 0 ? spoilt(text(1 + r(most), 1 + r(Math.min(7, most)))) : text(1 + r(most), 1 + r(Math.min(7, most))));
                     due("giving", x.giving(), m.giving());
                 } else if (r(30) == 0) {
                     instead();

@@ -65,6 +65,7 @@ public final class PromisesTest {
         acts();
         shelves();
         counts();
+        mostOfAll();
         manyCalls();
         System.out.println(wrong == 0 ? "all promises hold" : wrong + " rows are not as due");
         if (wrong != 0) {
@@ -127,6 +128,11 @@ public final class PromisesTest {
             due(x.count(2), 0);
         }
         due(x.count(0), 0);
+        String all = "a1b1c1d1e1f1g1h1;a>b>c>d>e>f>g>h";
+        due(giving(x, all + ">"), -133);
+        due(giving(x, all + "=a"), -133);
+        due(giving(x, all + "i"), -132);
+        due(giving(x, all + ">;a"), -133);
         due(giving(x, "a9;-"), 0);
         due(giving(x, "a1b2c3d4e5f6g7h8;h=g>f=e>d=c>b=a;*h-;*ha;-;a;b;c"), 1);
         due(giving(x, "a2;*aa;*aa"), 2);
@@ -967,6 +973,66 @@ public final class PromisesTest {
         due(x.count(4), 8);
         due(x.count(5), BAD);
         due(x.count(-1), BAD);
+    }
+
+    /** As many people and things as there may be. */
+    private static void mostOfAll() {
+        of(41);
+        String same = ";a>b>c>d>e>f>g";
+        TakenInTurns x = with("a1b1c1d1e1f1g1h1" + same + same + same + same + same + same + same);
+        due(x.of(0, 26), -1);
+        due(x.run(0, 1, 6543210), 1);
+        for (int who = 0; who < 7; who++) {
+            for (int thing = 0; thing < 8; thing++) {
+                due(x.has(who, thing), thing == 6 - who ? 1 : 0);
+                fraction(x, 0, 1, 10 * who + thing, thing < 7 ? 1 : 0, thing < 7 ? 7 : 1);
+                fraction(x, 0, 3, 10 * who + thing, thing < 7 ? 1 : 0, thing < 7 ? 7 : 1);
+                fraction(x, 0, 4, 10 * who + thing, thing == who ? 1 : 0, 1);
+                due(x.told(0, 10 * who + thing, thing == who ? 60 : 0), 0);
+                fraction(x, 0, 6, 10 * who + thing, thing == who ? 1 : 0, 1);
+            }
+            due(x.led(who, 0, 0), 6 - who);
+            due(x.level(0, who, 7), -1);
+            due(x.level(0, who, 6), 6);
+            due(x.rather(0, who, 1, 3), 0);
+            due(x.wrongly(0, who, 3, 1234567), 0);
+            due(x.wrongly(0, who, 3, 7654321), -1);
+            due(x.gains(0, who, 3), BIG);
+        }
+        due(x.ring(-1), NOT);
+        due(x.left(7), 1);
+        due(x.stops(0), 7);
+        due(x.envy(0, 4), 10);
+        due(x.envy(0, 1), NOT);
+        due(x.bars(0), NOT);
+        due(x.parted(0, -1, 0), 1);
+        due(x.parted(0, 0, 0), 123456);
+        due(x.parted(0, 0, 1), 60);
+        x.row(0, 0, 60);
+        x.put(0, 55, 4);
+        due(x.table(0, 0, 0), 56);
+        due(x.bars(0), 6);
+        due(x.told(0, 67, 0), 4);
+        due(x.bars(0), NOT);
+        due(x.parted(0, -1, 0), STATE);
+        due(x.order(0, 123456), 1);
+        due(x.even(), 1);
+        due(x.evenIs(0), 2);
+        due(x.years(0, 123456, 1, -1), 6543210);
+        due(x.years(0, 123456, 2, -1), 6543210);
+        due(x.years(0, 123456, 2, 6), 10);
+        x.rounds(0, 2);
+        due(x.swap(0, 0), 123456);
+        due(x.swap(0, 1), 6);
+        due(x.stops(0), 7);
+        due(instead(x, 0, 6, "*hh>g>f>e>d>c>b>a"), 1);
+        due(x.of(1, 26), 7);
+        due(x.level(1, 6, 0), 7);
+        due(x.share(1, 1, 67, 0), 1);
+        due(x.run(1, 2, 123456), 1);
+        due(x.led(6, 1, 0), 7);
+        due(x.led(6, 1, 1), 6);
+        due(x.has(5, 5), 1);
     }
 
     /** The dearest calls, as often as an object is asked: they must end soon. */
