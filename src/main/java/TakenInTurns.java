@@ -1531,7 +1531,10 @@ public final class TakenInTurns {
         }
     }
 
-    /** The least ring of those who would still trade when a run is over. */
+    /**
+     * The least ring of those who would still trade when a run is over. By the runs that there are none is ever found,
+     * since each took the best that was left; but it is looked for, and not taken for granted.
+     */
     private static final class Rings {
         final int[] who = new int[MOST_PEOPLE];
         final int[] given = new int[MOST_PEOPLE];

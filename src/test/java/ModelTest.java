@@ -833,10 +833,13 @@ public final class ModelTest {
             }
             tell(text(1 + r(most), 1 + r(Math.min(7, most))));
             due("giving", x.giving(), m.giving());
+            look(0, 4);
             while (made < 500 && wrong < 20) {
                 if (r(25) == 0) {
                     tell(r(3) == 0 ? spoilt(text(1 + r(most), 1 + r(Math.min(7, most)))) : text(1 + r(most), 1 + r(Math.min(7, most))));
+                    int before = m.givings.size();
                     due("giving", x.giving(), m.giving());
+                    if (m.givings.size() > before) look(before, 3 + r(2));
                 } else if (r(30) == 0) {
                     instead();
                 } else if (r(25) == 0) {
@@ -844,6 +847,17 @@ public final class ModelTest {
                 } else {
                     one();
                 }
+            }
+        }
+        /** All shares of a giving by eating, or by trade. */
+        void look(int g, int kind) {
+            for (int way = 0; way < m.ways.size(); way++) {
+                if (!m.given(g) || m.kind(way) != kind) continue;
+                for (int p = 0; p < m.givings.get(g).people(); p++)
+                    for (int t = 0; t < m.givings.get(g).things(); t++)
+                        for (int side = 0; side < 2; side++)
+                            due("share " + p + " " + t, x.share(g, way, 10 * p + t, side), m.share(g, way, 10 * p + t, side));
+                return;
             }
         }
         void tell(String text) {

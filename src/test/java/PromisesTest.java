@@ -463,6 +463,11 @@ public final class PromisesTest {
         fraction(x, 3, 4, 30, 1, 1);
         fraction(x, 3, 4, 40, 1, 1);
         fraction(x, 3, 4, 0, 0, 1);
+        // Who points to nobody is done at once, and the others trade.
+        due(giving(x, "a1b1c1;*a-;*bc>b;*ca>b"), 4);
+        fraction(x, 4, 4, 0, 1, 1);
+        fraction(x, 4, 4, 12, 1, 1);
+        fraction(x, 4, 4, 21, 1, 1);
     }
 
     private static void mends() {
@@ -478,6 +483,11 @@ public final class PromisesTest {
         fraction(x, 0, 6, 20, 0, 1);
         fraction(x, 0, 6, 21, 1, 6);
         fraction(x, 0, 5, 11, 1, 1);
+        due(giving(x, "a1b1;a>b;a"), 1);
+        table(x, 1, new int[][] {{60, 1}, {1, 0}});
+        fraction(x, 1, 6, 0, 1, 1);
+        fraction(x, 1, 6, 1, 0, 1);
+        fraction(x, 1, 6, 10, 0, 1);
         x.rounds(0, 2);
         fraction(x, 0, 6, 0, 1, 2);
         fraction(x, 0, 6, 10, 1, 2);
