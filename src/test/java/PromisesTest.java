@@ -19,8 +19,13 @@ public final class PromisesTest {
     }
 
     private static void tell(TakenInTurns x, String text) {
-        for (int i = 0; i < text.length(); i++) {
-            x.feed(1, text.charAt(i));
+        for (int i = 0; i < text.length(); i += 4) {
+            int n = Math.min(4, text.length() - i);
+            int v = 0;
+            for (int k = 0; k < n; k++) {
+                v |= text.charAt(i + k) << 8 * k;
+            }
+            x.feed(n, v);
         }
     }
 
@@ -989,25 +994,16 @@ public final class PromisesTest {
     private static void mostOfAll() {
         of(41);
         String same = ";a>b>c>d>e>f>g";
-        TakenInTurns x = with("a1b1c1d1e1f1g1h1" + same + same + same + same + same + same + same);
+        String text = "a1b1c1d1e1f1g1h1" + same + same + same + same + same + same + same;
+        for (int who = 0; who < 7; who++) {
+            // One for each of them, since an object is asked for no more than 512 calls.
+            oneOfSeven(with(text), who);
+        }
+        TakenInTurns x = with(text);
         due(x.of(0, 26), -1);
         due(x.run(0, 1, 6543210), 1);
         for (int who = 0; who < 7; who++) {
-            for (int thing = 0; thing < 8; thing++) {
-                due(x.has(who, thing), thing == 6 - who ? 1 : 0);
-                fraction(x, 0, 1, 10 * who + thing, thing < 7 ? 1 : 0, thing < 7 ? 7 : 1);
-                fraction(x, 0, 3, 10 * who + thing, thing < 7 ? 1 : 0, thing < 7 ? 7 : 1);
-                fraction(x, 0, 4, 10 * who + thing, thing == who ? 1 : 0, 1);
-                due(x.told(0, 10 * who + thing, thing == who ? 60 : 0), 0);
-                fraction(x, 0, 6, 10 * who + thing, thing == who ? 1 : 0, 1);
-            }
-            due(x.led(who, 0, 0), 6 - who);
-            due(x.level(0, who, 7), -1);
-            due(x.level(0, who, 6), 6);
-            due(x.rather(0, who, 1, 3), 0);
-            due(x.wrongly(0, who, 3, 1234567), 0);
-            due(x.wrongly(0, who, 3, 7654321), -1);
-            due(x.gains(0, who, 3), BIG);
+            due(x.told(0, 11 * who, 60), 0);
         }
         due(x.ring(-1), NOT);
         due(x.left(7), 1);
@@ -1043,6 +1039,25 @@ public final class PromisesTest {
         due(x.led(6, 1, 0), 7);
         due(x.led(6, 1, 1), 6);
         due(x.has(5, 5), 1);
+    }
+
+    private static void oneOfSeven(TakenInTurns x, int who) {
+        due(x.run(0, 1, 6543210), 1);
+        for (int thing = 0; thing < 8; thing++) {
+            due(x.has(who, thing), thing == 6 - who ? 1 : 0);
+            fraction(x, 0, 1, 10 * who + thing, thing < 7 ? 1 : 0, thing < 7 ? 7 : 1);
+            fraction(x, 0, 3, 10 * who + thing, thing < 7 ? 1 : 0, thing < 7 ? 7 : 1);
+            fraction(x, 0, 4, 10 * who + thing, thing == who ? 1 : 0, 1);
+            due(x.told(0, 10 * who + thing, thing == who ? 60 : 0), 0);
+            fraction(x, 0, 6, 10 * who + thing, thing == who ? 1 : 0, 1);
+        }
+        due(x.led(who, 0, 0), 6 - who);
+        due(x.level(0, who, 7), -1);
+        due(x.level(0, who, 6), 6);
+        due(x.rather(0, who, 1, 3), 0);
+        due(x.wrongly(0, who, 3, 1234567), 0);
+        due(x.wrongly(0, who, 3, 7654321), -1);
+        due(x.gains(0, who, 3), BIG);
     }
 
     /** The dearest calls, as often as an object is asked: they must end soon. */
